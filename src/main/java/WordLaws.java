@@ -552,7 +552,11 @@ public final class WordLaws {
         }
 
         int rest(long v) {
-            return prime > 0 ? (int) Math.floorMod(v, (long) prime) : 0;
+            if (prime < 2) {
+                return 0;
+            }
+            int rest = (int) (v % prime);
+            return rest < 0 ? rest + prime : rest;
         }
 
         int inverse(int v) {
