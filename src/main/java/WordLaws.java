@@ -430,8 +430,9 @@ public final class WordLaws {
     }
 
     /**
-     * The sums whose numbers fit no law: one for each normal word v of length 2, with the number of v
-     * in the plain form of each word, for these fit the words less their plain forms and are enough.
+     * A sum of the other algebra's laws has the sum 0 with each word less its plain form. So its numbers
+     * of normal words are free, and bind the others: there is one law for each normal word v, with the
+     * number of v in the plain form of each word.
      */
     private void renewOther() {
         if (!otherIsStale) {
@@ -913,7 +914,7 @@ public final class WordLaws {
             if (middles[d] == UNKNOWN) {
                 echelon.open(normals[d]);
                 for (int x = 0; x < alphabet.letters(); x++) {
-                    for (int t = 0; t < alphabet.words(d + 1); t++) {
+                    for (int t = 0; t < alphabet.words(d + 1) && echelon.rank() < normals[d]; t++) {
                         addEquation(d, x, t, echelon);
                     }
                 }
